@@ -19,10 +19,10 @@ public final class BoxedPages {
     // A row of zeros is a free page, so that a new disk needs no writing but that of its root.
     private static final int FREE = 0;
     private static final int LOWEST = 1;
-    // Five levels of two each take 32 entries, six would take 64.
-    private static final int HIGHEST = 5;
+    // A root there that is to be split has 6 pages below, of 8 entries at least: more than 40.
+    private static final int HIGHEST = 4;
 
-    // 40 entries fill at most 20 lowest pages, with 10, 5, 2 and 1 above: 38, and the header.
+    // 40 entries fill at most 20 lowest pages, with 10, 5 and 1 above: 36, and the header.
     private static final int PAGES = 40;
     private static final int HEADER = 0;
     private static final int FIRST_ROOT = 1;

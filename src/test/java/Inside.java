@@ -58,7 +58,25 @@ final class Inside {
     /** Whether the tree is as the document tells it, found without the class's own functions. */
     static boolean isTree(BoxedPages store) {
         int[] frame = new int[4];
-        return entries(store, root(store), height(store), true, frame) == store.size();
+        return entries(store, root(store), height(store), true, frame) == store.size()
+            && takenPages(store) == pagesFrom(store, root(store));
+    }
+
+    /** How many pages are not free: a page that no other tells of would be lost for good. */
+    private static int takenPages(BoxedPages store) {
+        int sum = 0;
+        for (int number = 1; number < Array.getLength(get(tree(store), "pages")); number++) {
+            sum += number(page(store, number), "level") > 0 ? 1 : 0;
+        }
+        return sum;
+    }
+
+    private static int pagesFrom(BoxedPages store, Object page) {
+        int sum = 1;
+        for (int slot = 0; number(page, "level") > 1 && slot < number(page, "used"); slot++) {
+            sum += pagesFrom(store, child(store, page, slot));
+        }
+        return sum;
     }
 
     private static int entries(BoxedPages store, Object page, int level, boolean root, int[] frame) {

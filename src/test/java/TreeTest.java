@@ -3,6 +3,8 @@ public final class TreeTest {
     public static void main(String[] args) {
         soundAlways();
         soundTellsWhatIsWrong();
+        highestTree();
+        splitAndMergeAgain();
         frugalAlways();
         frugalTellsWhatIsWrong();
         searchesLeavePagesOut();
@@ -51,9 +53,17 @@ public final class TreeTest {
         Inside.set(child, "used", 1);
         Checks.due("a page has too few", few.sound(), false);
         BoxedPages deep = filled();
-        Object page = Inside.child(deep, Inside.root(deep), 0);
-        Inside.set(Inside.box(page, 0), "below", Inside.number(Inside.tree(deep), "root"));
+        Object shallow = Inside.box(Inside.root(deep), 0);
+        Object lower = Inside.box(Inside.child(deep, Inside.root(deep), 0), 0);
+        for (String part : new String[] {"x1", "y1", "x2", "y2", "below"}) {
+            Inside.set(shallow, part, Inside.number(lower, part));
+        }
+        Inside.set(Inside.tree(deep), "entries", deep.count(-1000, -1000, 1000, 1000));
         Checks.due("a page is not as deep as the others", deep.sound(), false);
+        BoxedPages loop = filled();
+        Object page = Inside.child(loop, Inside.root(loop), 0);
+        Inside.set(Inside.box(page, 0), "below", Inside.number(Inside.tree(loop), "root"));
+        Checks.due("a page below itself", loop.sound(), false);
         BoxedPages lost = filled();
         Inside.set(Inside.box(Inside.root(lost), 0), "below", 1000);
         Checks.due("a page that there is not", lost.sound(), false);
@@ -64,6 +74,47 @@ public final class TreeTest {
         Inside.set(Inside.root(many), "used", 6);
         Inside.set(Inside.tree(many), "entries", 6);
         Checks.due("a page has too many", many.sound(), false);
+    }
+
+    /** Each is nearer to the last than that to the one before, so that pages of two are left. */
+    private static void highestTree() {
+        BoxedPages s = new BoxedPages();
+        int[] x = new int[40];
+        double next = 1000000000.0;
+        for (int i = 0; i < 40; i++) {
+            x[i] = (int) next;
+            next /= 1.6;
+            s.insert(i, x[i], 0, x[i], 0);
+            Checks.due("sound as it grows high", s.sound() && Inside.isTree(s), true);
+        }
+        Checks.due("four levels", Inside.height(s), 4);
+        for (int i = 0; i < 40; i++) {
+            Checks.due("found in the highest tree", s.nearest(x[i], 0), i);
+            Checks.due("counted in the highest tree", s.count(x[i], 0, x[i], 0), 1);
+        }
+        s.stop();
+        s.start();
+        for (int i = 0; i < 40; i++) {
+            Checks.due("deleted from the highest tree", s.delete(i, x[i], 0, x[i], 0), 39 - i);
+            Checks.due("sound as it shrinks", s.sound() && Inside.isTree(s), true);
+        }
+    }
+
+    /** The root grows and shrinks by turns: a page that were not given back would be missed. */
+    private static void splitAndMergeAgain() {
+        BoxedPages s = new BoxedPages();
+        for (int turn = 0; turn < 40; turn++) {
+            for (int i = 0; i < 6; i++) {
+                s.insert(i, i, i, i, i);
+            }
+            Checks.due("two levels", Inside.height(s), 2);
+            Checks.due("sound with two levels", s.sound() && Inside.isTree(s), true);
+            for (int i = 0; i < 6; i++) {
+                s.delete(i, i, i, i, i);
+            }
+            Checks.due("one level", Inside.height(s), 1);
+            Checks.due("sound with one level", s.sound() && Inside.isTree(s), true);
+        }
     }
 
     private static void frugalAlways() {
