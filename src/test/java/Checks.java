@@ -2,15 +2,21 @@
 final class Checks {
     private static int wrong = 0;
     private static int asked = 0;
+    private static String about = "";
 
     private Checks() {
+    }
+
+    /** The sentence of the document that the checks from here on are about. */
+    static void sentence(String words) {
+        about = words + ": ";
     }
 
     static void due(String what, long got, long want) {
         asked++;
         if (got != want) {
             wrong++;
-            System.out.println(what + " answered " + got + ", due is " + want);
+            System.out.println(about + what + " answered " + got + ", due is " + want);
         }
     }
 
