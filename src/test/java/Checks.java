@@ -24,6 +24,11 @@ final class Checks {
         due(what, got ? 1L : 0L, want ? 1L : 0L);
     }
 
+    /** How many answers have been looked at. */
+    static int asked() {
+        return asked;
+    }
+
     static void end() {
         System.out.println(wrong == 0 ? asked + " answers are as due" : wrong + " answers are not as due");
         if (wrong != 0) {

@@ -58,7 +58,7 @@ final class Inside {
     /** Whether the tree is as the document tells it, found without the class's own functions. */
     static boolean isTree(BoxedPages store) {
         int[] frame = new int[4];
-        return entries(store, root(store), height(store), true, frame) == store.size()
+        return entries(store, root(store), height(store), true, frame) == number(tree(store), "entries")
             && takenPages(store) == pagesFrom(store, root(store));
     }
 

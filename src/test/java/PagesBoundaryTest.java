@@ -104,6 +104,9 @@ public final class PagesBoundaryTest {
         }
         Inside.set(Inside.tree(spoilt), "entries", Stores.countAll(spoilt));
         Checks.due("sound with a page that is less deep", spoilt.sound(), false);
+        BoxedPages unlike = twoPages();
+        Inside.set(Inside.child(unlike, Inside.root(unlike), 1), "level", 2);
+        Checks.due("sound with a page that ought to go deeper", unlike.sound(), false);
     }
 
     private static void theLeastRectangle() {

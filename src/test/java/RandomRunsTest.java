@@ -5,7 +5,7 @@ public final class RandomRunsTest {
     private static final int[] SPREADS = {0, 3, 12, 60, 1000, 1000000, 1000000000};
 
     public static void main(String[] args) {
-        for (int seed = 0; seed < 630; seed++) {
+        for (int seed = 0; seed < 1260; seed++) {
             run(seed);
         }
         Checks.end();
@@ -18,7 +18,9 @@ public final class RandomRunsTest {
         int spread = SPREADS[seed % SPREADS.length];
         int cuts = seed / SPREADS.length % 3 * 4;
         int[] box = new int[4];
-        for (int call = 0; call < 512; call++) {
+        int start = Checks.asked();
+        // The longest turn of this loop makes 10 calls, each looked at: what is behind the 512th is free.
+        for (int call = 0; Checks.asked() - start <= 502; call = Checks.asked() - start) {
             // Growing and shrinking by turns brings all heights of the tree.
             boolean growing = call / 90 % 2 == 0;
             int kind = random.nextInt(100);
@@ -31,10 +33,11 @@ public final class RandomRunsTest {
                 ask(store, model, random, box);
             }
             String where = "seed " + seed + ", call " + call + ": ";
-            if (store.up() != model.up() || store.up() && !Inside.isTree(store)) {
+            Checks.due(where + "up()", store.up(), model.up());
+            if (model.up() && !Inside.isTree(store)) {
                 Checks.due(where + "the tree within", false, true);
             }
-            if (!store.up() && random.nextInt(3) == 0) {
+            if (!model.up() && random.nextInt(3) == 0) {
                 Checks.due(where + "start()", store.start(), model.start());
             }
         }

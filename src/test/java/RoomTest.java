@@ -27,7 +27,7 @@ public final class RoomTest {
     }
 
     private static void run(BoxedPages s) {
-        for (int i = 0; i < CALLS / 16; i++) {
+        for (int i = 0; i < CALLS / 17; i++) {
             int x = i * 37 % 100;
             sum += s.insert(i, x, i, x + 5, i + 5) + s.insert(i, i, x, i + 5, x + 5) + s.insert(i, x, x, x, x);
             sum += s.delete(i, x, x, x, x) + s.take(x, 0, x + 1, 100) + s.count(0, 0, x, x) + s.within(0, 0, x, x);

@@ -103,7 +103,7 @@ public final class TreeTest {
     /** The root grows and shrinks by turns: a page that were not given back would be missed. */
     private static void splitAndMergeAgain() {
         BoxedPages s = new BoxedPages();
-        for (int turn = 0; turn < 40; turn++) {
+        for (int turn = 0; turn < 36; turn++) {
             for (int i = 0; i < 6; i++) {
                 s.insert(i, i, i, i, i);
             }
@@ -123,8 +123,8 @@ public final class TreeTest {
         s.count(0, 0, 9, 9);
         s.nearest(0, 0);
         Checks.due("frugal when it is empty", s.frugal(), true);
-        s = filled();
         for (int x = -150; x < 950; x += 50) {
+            s = filled();
             for (int y = -150; y < 650; y += 50) {
                 s.count(x, y, x + 40, y + 40);
                 Checks.due("count is frugal", s.frugal(), true);
