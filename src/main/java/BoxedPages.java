@@ -33,6 +33,9 @@ public final class BoxedPages {
 
     private static final int ALL_SLOTS = -1;
 
+    // Above each square and each sum of two areas: these are 8 * 10^18 at most.
+    private static final long BEYOND_ALL = 9223372036854775807L;
+
     private static final int NO_CUT = -1;
     private static final int CUT_AT_ONCE = 0;
     private static final int CUT_IN_LOG = 1;
@@ -97,9 +100,8 @@ public final class BoxedPages {
         if (search.hits == 0) {
             return BAD;
         }
-        // What was found lies in a page that the uprooting changes.
-        asked.become(search.found[0]);
-        return tree.uproot(asked) ? settle(asked.below) : BAD;
+        Box first = search.found[0];
+        return tree.uproot(first) ? settle(first.below) : BAD;
     }
 
     public boolean cut(int which) {
@@ -188,7 +190,7 @@ public final class BoxedPages {
             return BAD;
         }
         searchPoint(x, y);
-        return search.closest == null ? BAD : search.closest.below;
+        return search.closest.below;
     }
 
     public int around(int side) {
@@ -399,8 +401,8 @@ public final class BoxedPages {
 
         int slotThatGrowsLeast(Box entry) {
             int best = 0;
-            long leastGrowth = Long.MAX_VALUE;
-            long leastArea = Long.MAX_VALUE;
+            long leastGrowth = BEYOND_ALL;
+            long leastArea = BEYOND_ALL;
             for (int slot = 0; slot < used; slot++) {
                 long area = boxes[slot].area();
                 long growth = boxes[slot].areaWith(entry) - area;
@@ -415,7 +417,7 @@ public final class BoxedPages {
 
         int bestPartner(int slot) {
             int best = slot;
-            long leastArea = Long.MAX_VALUE;
+            long leastArea = BEYOND_ALL;
             for (int other = 0; other < used; other++) {
                 long area = boxes[other].areaWith(boxes[slot]);
                 if (other != slot && area < leastArea) {
@@ -724,8 +726,8 @@ public final class BoxedPages {
         /** The slots to move out so that both pages cover least; the last slot always stays. */
         private int bestDivision(Page page) {
             int best = 3;
-            long leastArea = Long.MAX_VALUE;
-            long leastRim = Long.MAX_VALUE;
+            long leastArea = BEYOND_ALL;
+            long leastRim = BEYOND_ALL;
             for (int slots = 1; slots < 1 << MOST_BELOW; slots++) {
                 int moved = Integer.bitCount(slots);
                 if (moved < LEAST_BELOW || page.used - moved < LEAST_BELOW) {
@@ -782,10 +784,10 @@ public final class BoxedPages {
 
     /** The latest search: what it found, and the pages into which it looked. */
     private static final class Search {
-        // In their order, the first hits of them.
+        // In their order, the first hits of them; copies, so that no change of a page reaches them.
         final Box[] found = new Box[MOST_ENTRIES];
         int hits;
-        Box closest;
+        final Box closest = new Box();
         long least;
         private final int[] waiting = new int[PAGES];
         private final long[] squares = new long[PAGES];
@@ -793,6 +795,12 @@ public final class BoxedPages {
         private final int[] looked = new int[PAGES];
         private int looks;
         private final Box frame = new Box();
+
+        Search() {
+            for (int hit = 0; hit < MOST_ENTRIES; hit++) {
+                found[hit] = new Box();
+            }
+        }
 
         /** Finds the entries that meet a window. */
         void gather(Tree tree, Box window) {
@@ -816,8 +824,7 @@ public final class BoxedPages {
 
         /** Finds the entry nearest to a point, the nearest page first: no look is in vain. */
         void approach(Tree tree, int x, int y) {
-            closest = null;
-            least = Long.MAX_VALUE;
+            least = BEYOND_ALL;
             begin(tree.root);
             for (int round = 0; round < PAGES && queued > 0; round++) {
                 int next = nearestWaiting();
@@ -905,16 +912,16 @@ public final class BoxedPages {
             }
             int place = hits;
             while (place > 0 && entry.precedes(found[place - 1])) {
-                found[place] = found[place - 1];
+                found[place].become(found[place - 1]);
                 place--;
             }
-            found[place] = entry;
+            found[place].become(entry);
             hits++;
         }
 
         private void keepCloser(Box entry, long square) {
-            if (closest == null || square < least || square == least && entry.precedes(closest)) {
-                closest = entry;
+            if (square < least || square == least && entry.precedes(closest)) {
+                closest.become(entry);
                 least = square;
             }
         }

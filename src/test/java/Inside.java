@@ -105,19 +105,20 @@ final class Inside {
         return sum;
     }
 
-    /** How many objects and arrays, and how many fields and elements, an object is made of. */
+    /** How many objects and arrays, fields and elements an object is made of, and how many are null. */
     static long[] room(Object start) {
         Set<Object> seen = Collections.newSetFromMap(new IdentityHashMap<>());
         ArrayDeque<Object> open = new ArrayDeque<>();
         seen.add(start);
         open.add(start);
         long parts = 0;
+        long nulls = 0;
         while (!open.isEmpty()) {
             Object next = open.remove();
             if (next.getClass().isArray()) {
                 parts += Array.getLength(next);
                 for (int i = 0; !next.getClass().getComponentType().isPrimitive() && i < Array.getLength(next); i++) {
-                    note(Array.get(next, i), seen, open);
+                    nulls += note(Array.get(next, i), seen, open);
                 }
                 continue;
             }
@@ -125,18 +126,19 @@ final class Inside {
                 if (!Modifier.isStatic(field.getModifiers())) {
                     parts++;
                     if (!field.getType().isPrimitive()) {
-                        note(get(next, field.getName()), seen, open);
+                        nulls += note(get(next, field.getName()), seen, open);
                     }
                 }
             }
         }
-        return new long[] {seen.size(), parts};
+        return new long[] {seen.size(), parts, nulls};
     }
 
-    private static void note(Object part, Set<Object> seen, ArrayDeque<Object> open) {
+    private static int note(Object part, Set<Object> seen, ArrayDeque<Object> open) {
         if (part != null && seen.add(part)) {
             open.add(part);
         }
+        return part == null ? 1 : 0;
     }
 
     private static Field field(Object owner, String name) {

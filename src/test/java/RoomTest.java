@@ -10,6 +10,7 @@ public final class RoomTest {
         System.out.println(room[0] + " objects and arrays, " + room[1] + " fields and elements");
         Checks.due("512 new objects keep to 600000 objects", room[0] * CALLS <= 600000, true);
         Checks.due("512 new objects keep to 7300000 fields", room[1] * CALLS <= 7300000, true);
+        Checks.due("references that are null, so that one would have to be looked at before its use", room[2], 0);
         callsMakeNothing();
         Checks.end();
     }
