@@ -95,8 +95,7 @@ public final class BoxedPages {
         if (!isRectangle(x1, y1, x2, y2)) {
             return BAD;
         }
-        asked.assign(x1, y1, x2, y2, 0);
-        search.gather(tree, asked);
+        searchWindow(x1, y1, x2, y2);
         if (search.hits == 0) {
             return BAD;
         }
@@ -146,6 +145,7 @@ public final class BoxedPages {
             return BAD;
         }
         searchWindow(x1, y1, x2, y2);
+        noteThrift();
         return search.hits;
     }
 
@@ -157,6 +157,7 @@ public final class BoxedPages {
             return BAD;
         }
         searchWindow(x1, y1, x2, y2);
+        noteThrift();
         return search.hitsInside(asked);
     }
 
@@ -168,7 +169,11 @@ public final class BoxedPages {
             return BAD;
         }
         searchWindow(x1, y1, x2, y2);
-        return k >= 0 && k < search.hits ? search.found[k].below : BAD;
+        if (k < 0 || k >= search.hits) {
+            return BAD;
+        }
+        noteThrift();
+        return search.found[k].below;
     }
 
     public long distance(int x, int y) {
@@ -236,6 +241,10 @@ public final class BoxedPages {
     private void searchWindow(int x1, int y1, int x2, int y2) {
         asked.assign(x1, y1, x2, y2, 0);
         search.gather(tree, asked);
+    }
+
+    /** Apart from the search: a take is no question, and a pick may yet be refused. */
+    private void noteThrift() {
         thrifty = search.lookedOnlyWhereMet(tree, asked);
     }
 

@@ -1,10 +1,29 @@
 /** Counts and prints the answers that are not as due. */
 final class Checks {
+    // A test takes some seconds: one that takes this long has met a call that does not end.
+    private static final long LONGEST_MILLIS = 300000;
+
     private static int wrong = 0;
     private static int asked = 0;
     private static String about = "";
 
+    static {
+        Thread limit = new Thread(Checks::endTooLong);
+        limit.setDaemon(true);
+        limit.start();
+    }
+
     private Checks() {
+    }
+
+    private static void endTooLong() {
+        try {
+            Thread.sleep(LONGEST_MILLIS);
+        } catch (InterruptedException e) {
+            return;
+        }
+        System.out.println(about + "a call does not end");
+        Runtime.getRuntime().halt(1);
     }
 
     /** The sentence of the document that the checks from here on are about. */

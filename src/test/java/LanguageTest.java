@@ -79,8 +79,9 @@ public final class LanguageTest extends TreePathScanner<Void, Void> {
         Checks.end();
     }
 
-    private void never(String rule, Tree what) {
-        Checks.due(rule + ": " + what, true, false);
+    private static void never(String rule, Tree what) {
+        Checks.sentence(rule);
+        Checks.due("what may not be there: " + what, true, false);
     }
 
     private Element element() {
@@ -210,7 +211,8 @@ public final class LanguageTest extends TreePathScanner<Void, Void> {
         if (called.equals(caller)) {
             recursive.add(told(called));
             boolean fine = called.getModifiers().containsAll(Set.of(Modifier.PRIVATE, Modifier.STATIC));
-            Checks.due("rule 8: a private static method: " + called, fine, true);
+            Checks.sentence("rule 8");
+            Checks.due("a private static method: " + called, fine, true);
         } else {
             calls.computeIfAbsent(told(caller), key -> new TreeSet<>()).add(told(called));
         }

@@ -59,6 +59,13 @@ public final class PagesBoundaryTest {
             Inside.set(told, side, Inside.number(Inside.box(small, 0), side));
         }
         Checks.due("sound with one in a page", s.sound(), false);
+        Inside.set(small, "used", 0);
+        Inside.set(Inside.tree(s), "entries", 3);
+        for (String side : new String[] {"x1", "y1", "x2", "y2"}) {
+            // What the class takes for the least rectangle around nothing.
+            Inside.set(told, side, side.endsWith("1") ? Stores.NONE : -Stores.NONE);
+        }
+        Checks.due("sound with none in a page", s.sound(), false);
         s = twoPages();
         s.delete(2, 2, 0, 2, 0);
         s.delete(1, 1, 0, 1, 0);
@@ -307,6 +314,15 @@ public final class PagesBoundaryTest {
         s.distance(FAR + 1, 0);
         s.nearest(0, -FAR - 1);
         Checks.due("refused ones are not the latest", s.frugal(), false);
+        s.pick(-FAR, -FAR, FAR, FAR, -1);
+        s.pick(-FAR, -FAR, FAR, FAR, 6);
+        Checks.due("nor is a pick of what isn't there", s.frugal(), false);
+        s.pick(-FAR, -FAR, FAR, FAR, 5);
+        Checks.due("but a pick of the last is", s.frugal(), true);
+        s.pick(0, 0, 1, 0, 2);
+        Checks.due("a pick in vain, and of what isn't there", s.frugal(), true);
+        s.pick(0, 0, 1, 0, 1);
+        Checks.due("a pick in vain", s.frugal(), false);
         s.size();
         s.around(0);
         s.take(500, 500, 500, 500);

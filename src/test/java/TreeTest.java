@@ -33,8 +33,9 @@ public final class TreeTest {
         Checks.due("sound when down", s.sound(), false);
         s.start();
         Checks.due("sound when up again", s.sound() && Inside.isTree(s), true);
-        while (s.size() > 0) {
+        for (int left = 39; left >= 0; left--) {
             s.take(-1000, -1000, 1000, 1000);
+            Checks.due("size after take", s.size(), left);
             Checks.due("sound after take", s.sound() && Inside.isTree(s), true);
         }
     }
